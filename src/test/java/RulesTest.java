@@ -1,0 +1,124 @@
+import java.lang.reflect.Constructor;
+import java.lang.reflect.Field;
+import java.lang.reflect.Method;
+import java.lang.reflect.Modifier;
+import java.nio.file.Files;
+import java.nio.file.Path;
+import java.util.List;
+import java.util.Set;
+import java.util.TreeSet;
+import java.util.regex.Matcher;
+import java.util.regex.Pattern;
+
+/** The rules of LANGUAGE.md that a look at the class or at its source can check. */
+public final class RulesTest {
+    private static int wrong = 0;
+
+    private static final Set<String> METHODS = Set.of(
+        "int shape(int,int,int,int,int)", "int moves(int,int,int,int,int)", "int lifts(int,int)",
+        "int clips(int,int)", "int removes(int)", "int drawn()", "int of(int,int)", "int view(int,int)",
+        "int hit(int,int,int)", "int within(int,int,int,int)", "int nearest(int,int)", "int damage(int,int)",
+        "int tree(int)", "int node(int,int)", "int walk(int)", "int type(int)", "int clear()", "int does()",
+        "int back()", "int told(int)", "long digest()");
+    private static final Set<String> CONSTANTS = Set.of("NONE", "BAD", "NO", "FULL");
+
+    private static void check(boolean holds, String what) {
+        if (!holds) {
+            wrong++;
+            System.out.println(what);
+        }
+    }
+
+    private static String signature(Method m) {
+        StringBuilder text = new StringBuilder();
+        text.append(m.getReturnType().getName()).append(' ').append(m.getName()).append('(');
+        for (int k = 0; k < m.getParameterCount(); k++) {
+            text.append(k == 0 ? "" : ",").append(m.getParameterTypes()[k].getName());
+        }
+        return text.append(')').toString();
+    }
+
+    private static void face() {
+        check(Modifier.isFinal(SceneBoxes.class.getModifiers()), "the class is not final");
+        Set<String> found = new TreeSet<>();
+        Set<String> names = new TreeSet<>();
+        for (Method m : SceneBoxes.class.getDeclaredMethods()) {
+            if (Modifier.isPublic(m.getModifiers())) {
+                found.add(signature(m));
+                names.add(m.getName());
+                check(!Modifier.isStatic(m.getModifiers()), "static: " + m);
+            }
+        }
+        check(found.equals(METHODS), "the public methods are " + found);
+        for (Method m : SceneBoxes.class.getDeclaredMethods()) {
+            boolean isPublic = Modifier.isPublic(m.getModifiers());
+            check(isPublic || Modifier.isPrivate(m.getModifiers()), "neither public nor private: " + m);
+            check(isPublic || !names.contains(m.getName()), "a private method with a public name: " + m);
+        }
+        Set<String> constants = new TreeSet<>();
+        for (Field f : SceneBoxes.class.getDeclaredFields()) {
+            if (Modifier.isPublic(f.getModifiers())) {
+                constants.add(f.getName());
+            } else {
+                check(Modifier.isPrivate(f.getModifiers()), "neither public nor private: " + f);
+            }
+        }
+        check(constants.equals(CONSTANTS), "the public constants are " + constants);
+        Constructor<?>[] made = SceneBoxes.class.getDeclaredConstructors();
+        check(made.length == 1 && made[0].getParameterCount() == 0, "there is more than the constructor");
+    }
+
+    private static void inside() {
+        Class<?>[] inside = SceneBoxes.class.getDeclaredClasses();
+        check(inside.length + 1 <= 12, "more than twelve classes");
+        for (Class<?> c : inside) {
+            int m = c.getModifiers();
+            check(Modifier.isStatic(m), "not static: " + c);
+            check(!Modifier.isPublic(m) && !Modifier.isProtected(m), "too visible: " + c);
+        }
+        for (Class<?> c : inside) {
+            int fields = 0;
+            for (Field f : c.getDeclaredFields()) {
+                boolean fixed = Modifier.isStatic(f.getModifiers());
+                fields += fixed ? 0 : 1;
+                check(!fixed || Modifier.isFinal(f.getModifiers()), "static and not final: " + f);
+            }
+            check(fields <= 20, "more than twenty fields: " + c);
+            for (Method m : c.getDeclaredMethods()) {
+                check(m.getParameterCount() <= 7, "more than seven parameters: " + m);
+            }
+        }
+    }
+
+    private static void words() throws Exception {
+        String source = Files.readString(Path.of("src/main/java/SceneBoxes.java"));
+        String code = source.replaceAll("(?s)/\\*.*?\\*/", " ").replaceAll("//[^\n]*", " ");
+        for (String word : List.of("throw", "throws", "try", "catch", "synchronized", "assert", "package", "import",
+                "float", "double", "Random", "\\w+Exact", "hashCode", "toString", "equals")) {
+            check(!Pattern.compile("\\b" + word + "\\b").matcher(code).find(), "the source has " + word);
+        }
+        check(!code.contains("->") && !code.contains("::"), "the source has a lambda or a method reference");
+        Matcher calls = Pattern.compile("\\b(Math|System|Integer|Long|Arrays)\\.(\\w+)").matcher(code);
+        Set<String> library = Set.of("min", "max", "arraycopy", "MIN_VALUE", "MAX_VALUE");
+        while (calls.find()) {
+            check(library.contains(calls.group(2)), "the source uses " + calls.group());
+        }
+        // Objects are made by fields and by the constructor alone, so that no call fills the room.
+        Matcher made = Pattern.compile("(?m)^.*\\bnew\\b.*$").matcher(code);
+        while (made.find()) {
+            String line = made.group().strip();
+            boolean inField = line.matches("(private )?(final )?\\w+(\\[\\])? \\w+ = new [^;]*;");
+            check(inField || line.equals("past[k] = new Scene();"), "a call makes an object: " + line);
+        }
+    }
+
+    public static void main(String[] args) throws Exception {
+        face();
+        inside();
+        words();
+        System.out.println(wrong == 0 ? "the rules are kept" : wrong + " rules are broken");
+        if (wrong != 0) {
+            System.exit(1);
+        }
+    }
+}
