@@ -13,8 +13,10 @@ import java.util.regex.Pattern;
  * written in another way: objects, recursion, and a regular expression for the text.
  */
 public final class ModelTest {
-    private static final int RUNS = 3000;
+    private static final int RUNS = 5000;
     private static final int CALLS = 512;
+    /** A text is typed and executed at once, and the checksum follows. */
+    private static final int MOST_AT_ONCE = 125;
 
     record Rect(int x, int y, int w, int h) {
         static boolean possible(int x, int y, int w, int h) {
@@ -506,7 +508,11 @@ public final class ModelTest {
                 due("does of '" + m.text + "'", got, m.does());
                 return t.length() + 2; }
             case 24 -> { if (style % 4 == 0 || r.nextInt(4) == 0) due("back", x.back(), m.back()); }
-            default -> { due("told", x.told(what), m.told(what)); int c = number(r, 128); due("type", x.type(c), m.type(c)); }
+            default -> {
+                due("told", x.told(what), m.told(what));
+                int c = number(r, 128);
+                due("type", x.type(c), m.type(c));
+                return 2; }
         }
         return 1;
     }
@@ -518,8 +524,8 @@ public final class ModelTest {
             Model m = new Model();
             same = true;
             int made = 0;
-            while (made < CALLS && same) {
-                made += calls(x, m, r, run % 36);
+            while (made + MOST_AT_ONCE < CALLS && same) {
+                made += calls(x, m, r, run % 36) + 1;
                 due("run " + run + ": digest", x.digest(), m.digest());
             }
         }
