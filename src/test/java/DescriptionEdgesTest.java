@@ -521,6 +521,16 @@ public final class DescriptionEdgesTest extends Checks {
         nodeIs(b, 0, 0, 2, 0, 0, 54, 2);
         due("node(1, 1)", b.node(1, 1), 3);
         due("node(5, 1)", b.node(5, 1), 2);
+        // Roots that come after others are gone.
+        SceneBoxes c = pile(15);
+        c.removes(1);
+        treeIs(c, "(((0 12 14 3)(8 11))((10 13)(4 7))((6 9)(2 5)))");
+        c.removes(11);
+        treeIs(c, "(((10 12 3)(8 14)(13 0)(4 7))((6 9)(2 5)))");
+        c.removes(2);
+        treeIs(c, "(((10 3 6 9)(8 14)(4 7))((12 5)(13 0)))");
+        c.removes(0);
+        treeIs(c, "(((10 13 5)(3 9)(4 7))((6 12)(8 14)))");
     }
 
     private static void fewerThanTwo() {
@@ -765,7 +775,7 @@ public final class DescriptionEdgesTest extends Checks {
     }
 
     private static void emptyViewChangesNothing() {
-        about("An empty view changes nothing.");
+        about("An empty view, .. change nothing.");
         SceneBoxes a = fourDamaged();
         fourStay(a);
         a.lifts(4, 1);
@@ -777,7 +787,7 @@ public final class DescriptionEdgesTest extends Checks {
     }
 
     private static void equalBoxChangesNothing() {
-        about("a box that is exactly equal to a box of the sequence, change nothing");
+        about("and a box that is exactly equal to a box of the sequence, change nothing.");
         SceneBoxes a = fourDamaged();
         for (int s = 3; s >= 0; s--) {
             a.lifts(s, 1);
@@ -1032,7 +1042,7 @@ public final class DescriptionEdgesTest extends Checks {
     }
 
     private static void notUndone() {
-        about("The successful calls of shape() .. does() can be undone by back(): others cannot");
+        about("The successful calls of shape(), .. and does() can be undone by back(), and no others");
         SceneBoxes a = row(2);
         type(a, "d");
         a.clear();
@@ -1081,6 +1091,29 @@ public final class DescriptionEdgesTest extends Checks {
             refused(a, BAD, "of " + s, () -> a.of(s, 0));
             refused(a, BAD, "view of " + s, () -> a.view(s, 0));
         }
+    }
+
+    private static void impossibleRequests() {
+        about("NO (-3): the request is impossible, as described");
+        SceneBoxes a = new SceneBoxes();
+        refused(a, NO, "back() without calls", a::back);
+        SceneBoxes b = row(2);
+        b.clips(0, 1);
+        refused(b, NO, "clips(0, 0)", () -> b.clips(0, 0));
+        refused(b, NO, "clips(1, 0)", () -> b.clips(1, 0));
+        refused(b, NO, "removes(1)", () -> b.removes(1));
+    }
+
+    private static void noRoom() {
+        about("FULL (-4): there is no room");
+        SceneBoxes a = row(16);
+        type(a, "?".repeat(120));
+        refused(a, FULL, "shape", () -> a.shape(63, 63, 1, 1, 0));
+        refused(a, FULL, "type", () -> a.type('d'));
+        a.removes(0);
+        a.clear();
+        due("shape, with room", a.shape(63, 63, 1, 1, 0), 0);
+        due("type, with room", a.type('d'), 1);
     }
 
     private static void severalCodes() {
@@ -1200,6 +1233,8 @@ public final class DescriptionEdgesTest extends Checks {
         notUndone();
         latestFive();
         badShapes();
+        impossibleRequests();
+        noRoom();
         severalCodes();
         refusedCalls();
         nothingIsCountedInDoes();

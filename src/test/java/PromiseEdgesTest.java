@@ -1,4 +1,5 @@
 import java.math.BigInteger;
+import java.util.function.IntSupplier;
 
 /**
  * The boundary cases of the promises' own sections: a test for each sentence that names one, under the
@@ -43,16 +44,6 @@ public final class PromiseEdgesTest extends Checks {
         due("of(2, 5)", x.of(2, 5), 16);
         due("of(0, 6)", x.of(0, 6), 0);
         viewIs(x, 2, 8, 0, 2, 2);
-    }
-
-    private static void shapeIsUndone() {
-        about("2: Can be undone.");
-        SceneBoxes x = row(4);
-        long before = sceneSum(x);
-        x.shape(50, 50, 5, 5, 5);
-        due("back() over a split", x.back(), 4);
-        due("the scene", sceneSum(x), before);
-        due("shape gets the same number", x.shape(50, 50, 5, 5, 5), 4);
     }
 
     private static void lowestFreeNumber() {
@@ -114,15 +105,6 @@ public final class PromiseEdgesTest extends Checks {
             refused(x, BAD, "moves, wrong", () -> x.moves(1, b[0], b[1], b[2], b[3]));
         }
         refused(x, BAD, "moves, all wrong", () -> x.moves(3, -1, -1, 0, 0));
-    }
-
-    private static void movesIsUndone() {
-        about("3: Can be undone.");
-        SceneBoxes x = pile(11);
-        long before = sceneSum(x);
-        due("moves", x.moves(2, 50, 50, 3, 3) > 0 ? 1 : 0, 1);
-        due("back()", x.back(), 4);
-        due("the scene", sceneSum(x), before);
     }
 
     private static void liftsAnswersTheOldLevel() {
@@ -237,11 +219,13 @@ public final class PromiseEdgesTest extends Checks {
     private static void drawnEmptiesTheSequence() {
         about("7: Empties the sequence of damaged boxes.");
         SceneBoxes x = row(16);
+        long before = sceneSum(x);
         x.drawn();
         damageIs(x);
         due("told(5)", x.told(5), 16);
         due("back()", x.back(), 4);
         due("told(6)", x.told(6), 4);
+        due("the scene", sceneSum(x), before);
     }
 
     private static void drawnCountsBoxes() {
@@ -253,15 +237,42 @@ public final class PromiseEdgesTest extends Checks {
         }
     }
 
+    /** The call changes the scene, back() brings it back, and then the call answers the same again. */
+    private static void undone(SceneBoxes x, String call, IntSupplier made) {
+        long before = sceneSum(x);
+        int answer = made.getAsInt();
+        due("the scene is the same after " + call, sceneSum(x) == before ? 1 : 0, 0);
+        due("back() after " + call, x.back(), 4);
+        due("the scene after back()", sceneSum(x), before);
+        due(call + " again", made.getAsInt(), answer);
+    }
+
+    private static void changesAreUndone() {
+        about("2: Can be undone.");
+        SceneBoxes four = row(4);
+        four.drawn();
+        undone(four, "shape, with a split", () -> four.shape(50, 50, 5, 5, 5));
+        about("3: Can be undone.");
+        SceneBoxes pile = pile(11);
+        undone(pile, "moves, with nodes that are taken out", () -> pile.moves(2, 50, 50, 3, 3));
+        about("4: Can be undone.");
+        SceneBoxes x = row(5);
+        undone(x, "lifts", () -> x.lifts(4, 99));
+        about("5: Can be undone.");
+        undone(x, "clips", () -> x.clips(4, 3));
+        about("6: Can be undone.");
+        undone(x, "removes", () -> x.removes(4));
+        about("7: Can be undone.");
+        undone(x, "drawn", x::drawn);
+    }
+
     private static void changes() {
         shapeWithoutClip();
-        shapeIsUndone();
         lowestFreeNumber();
         shapeIsBad();
         shapeIsFull();
         movesCountsNodes();
         movesIsBad();
-        movesIsUndone();
         liftsAnswersTheOldLevel();
         liftsIsBad();
         clipsAnswersTheOldClip();
@@ -273,6 +284,7 @@ public final class PromiseEdgesTest extends Checks {
         removesIsImpossible();
         drawnEmptiesTheSequence();
         drawnCountsBoxes();
+        changesAreUndone();
     }
 
     // ---- 8 to 13: queries
@@ -438,6 +450,9 @@ public final class PromiseEdgesTest extends Checks {
 
     private static void nearestOfSeveral() {
         about("12: Returns the shape, the uppermost one if there are several");
+        SceneBoxes far = row(3);
+        far.lifts(0, 9);
+        due("nearest(63, 0), though another one is above", far.nearest(63, 0), 2);
         SceneBoxes x = pile(16);
         due("nearest(63, 63), of sixteen", x.nearest(63, 63), 15);
         x.lifts(4, 1);
@@ -685,7 +700,7 @@ public final class PromiseEdgesTest extends Checks {
     }
 
     private static void faultDoesNothing() {
-        about("19: If the text has a fault, nothing is done.");
+        about("19: If the text has a fault, .. nothing is done.");
         SceneBoxes x = row(2);
         String[] texts = {"l0 5;x", "r0;r1;d", "d;;", "d;l0 100;"};
         int[] want = {-15, -17, -12, -17};
@@ -821,10 +836,14 @@ public final class PromiseEdgesTest extends Checks {
             due("told(4)", x.told(4), left);
             due("told(5)", x.told(5), 3 + left);
         }
-        due("shape", x.shape(0, 0, 1, 1, 0), 3);
-        due("told(4)", x.told(4), 1);
-        due("back()", x.back(), 0);
-        due("told(5)", x.told(5), 3);
+        for (int shapes = 4; shapes <= 6; shapes++) {
+            due("shape", x.shape(0, 0, 1, 1, 0), shapes - 1);
+            due("told(4)", x.told(4), shapes - 3);
+        }
+        for (int left = 2; left >= 0; left--) {
+            due("back() again", x.back(), left);
+            due("told(5)", x.told(5), 3 + left);
+        }
     }
 
     private static void backIsImpossible() {

@@ -5,6 +5,7 @@ import java.lang.reflect.Modifier;
 import java.nio.file.Files;
 import java.nio.file.Path;
 import java.util.List;
+import java.util.Random;
 import java.util.Set;
 import java.util.TreeSet;
 import java.util.regex.Matcher;
@@ -112,10 +113,62 @@ public final class RulesTest {
         }
     }
 
+    private static void shortMethods() throws Exception {
+        int start = 0;
+        List<String> lines = Files.readAllLines(Path.of("src/main/java/SceneBoxes.java"));
+        for (int k = 0; k < lines.size(); k++) {
+            String line = lines.get(k);
+            if (line.matches("( {4}| {8})(?!if|for|while|switch)\\w.*\\) \\{")) {
+                start = k;
+            } else if (line.matches("( {4}| {8})\\}")) {
+                check(k - start < 60, "a long method at line " + (start + 1));
+            }
+        }
+    }
+
+    /** Far more calls than the document allows, with numbers at the edges and anywhere. */
+    private static void nothingIsThrown() {
+        int[] edges = {0, 1, 15, 16, 17, 63, 64, 65, 99, 100, 127, 128, -1, Integer.MIN_VALUE, Integer.MAX_VALUE};
+        String signs = "smlcrd;  0123456789";
+        Random dice = new Random(1);
+        SceneBoxes x = new SceneBoxes();
+        for (int k = 0; k < 300_000; k++) {
+            int[] v = new int[5];
+            for (int i = 0; i < 5; i++) {
+                v[i] = dice.nextInt(3) == 0 ? edges[dice.nextInt(edges.length)] : dice.nextInt(20);
+            }
+            switch (dice.nextInt(24)) {
+                case 0, 1, 2 -> x.shape(v[0], v[1], v[2], v[3], v[4]);
+                case 3, 4 -> x.moves(v[0], v[1], v[2], v[3], v[4]);
+                case 5 -> x.lifts(v[0], v[1]);
+                case 6 -> x.clips(v[0], v[1]);
+                case 7 -> x.removes(v[0]);
+                case 8 -> x.of(v[0], v[1]);
+                case 9 -> x.view(v[0], v[1]);
+                case 10 -> x.hit(v[0], v[1], v[2]);
+                case 11 -> x.within(v[0], v[1], v[2], v[3]);
+                case 12 -> x.nearest(v[0], v[1]);
+                case 13 -> x.damage(v[0], v[1]);
+                case 14 -> x.tree(v[0]);
+                case 15 -> x.node(v[0], v[1]);
+                case 16 -> x.walk(v[0]);
+                case 17 -> x.type(v[0]);
+                case 18 -> x.type(signs.charAt(dice.nextInt(signs.length())));
+                case 19 -> x.does();
+                case 20 -> x.told(v[0]);
+                case 21 -> x.digest();
+                case 22 -> x.back();
+                default -> { if (dice.nextInt(9) == 0) x.clear(); else x.drawn(); }
+            }
+        }
+    }
+
     public static void main(String[] args) throws Exception {
         face();
         inside();
         words();
+        shortMethods();
+        nothingIsThrown();
         System.out.println(wrong == 0 ? "the rules are kept" : wrong + " rules are broken");
         if (wrong != 0) {
             System.exit(1);
