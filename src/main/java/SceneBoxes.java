@@ -598,13 +598,13 @@ public final class SceneBoxes {
 
         /** The pair of entries with the greatest waste, as ROOM times the first plus the second. */
         private int worstPair(int node) {
-            int pair = 1;
-            int most = Integer.MIN_VALUE;
+            int pair = 0;
+            int most = 0;
             for (int i = 0; i < ROOM; i++) {
                 for (int j = i + 1; j < ROOM; j++) {
                     int waste = Box.waste(boxes[entries[place(node, i)]],
                         boxes[entries[place(node, j)]]);
-                    if (waste > most) {
+                    if (pair == 0 || waste > most) {
                         most = waste;
                         pair = ROOM * i + j;
                     }
@@ -925,12 +925,12 @@ public final class SceneBoxes {
         }
 
         int nearestTo(int x, int y) {
-            int least = Integer.MAX_VALUE;
+            int least = 0;
             int near = 0;
             for (int s = 0; s < SHAPES; s++) {
                 if (boxes[s] != Box.EMPTY) {
                     int distance = Box.distance(boxes[s], x, y);
-                    if (distance < least) {
+                    if (near == 0 || distance < least) {
                         least = distance;
                         near = 0;
                     }

@@ -26,7 +26,7 @@ abstract class Checks {
         }
     }
 
-    private static void tell(String what) {
+    static void tell(String what) {
         wrong++;
         System.out.println(subject + ": " + what);
     }
